@@ -11,6 +11,8 @@ public final class DoneTest {
     hourAheadOfHills();
     hourAtNets();
     hourNotBlown();
+    hourOfFive();
+    hourTheLast();
     net();
     turn();
     undo();
@@ -92,6 +94,10 @@ public final class DoneTest {
     x.lets(0, 1, 1);
     x.hour();
     due.is("11: five cells in two", x.letter(0, 3), 1);
+    WindPost north = Due.of("g4 3;i4;i5;b0;f2;");
+    north.lets(0, 1, 1);
+    north.hour();
+    due.is("11: north to the first cell", north.letter(0, 3), 0);
   }
 
   private static void hourAheadOfHills() {
@@ -160,6 +166,30 @@ public final class DoneTest {
     due.is("11: blown round, and caught where it was", round.letter(0, 5), 2);
   }
 
+  private static void hourOfFive() {
+    WindPost x = Due.of("g6 2;i0;i1;i2;b1;f6;");
+    for (int weight = 1; weight <= 5; weight++) x.lets(0, 2 - weight % 2, weight);
+    due.is("11: five letters, two arrive", x.hour(), 2);
+    int[] cells = {5, 4, 3, 2, 1};
+    for (int l = 0; l < 5; l++) {
+      due.is("11: five letters, the cell of " + l, x.letter(l, 3), cells[l]);
+      due.is("11: five letters, how is " + l, x.letter(l, 5), l >= 3 ? 1 : 0);
+    }
+  }
+
+  /** Behind 512 calls nothing is promised, but this edge is named, and no run of 512 comes to it. */
+  private static void hourTheLast() {
+    WindPost x = Due.of("g2 2;i0;i3;b1 2 4;f2;");
+    x.lets(0, 1, 5);
+    Due.hours(x, 9998);
+    due.is("11: to hour 9999", x.hour(), 0);
+    due.is("11: hour 9999", x.now(0), 9999);
+    String before = Due.state(x);
+    due.is("11: it is the last", x.hour(), WindPost.STATE);
+    due.alike("11: nothing changes", Due.state(x), before);
+    due.is("11: it can be undone", x.undo(), 9);
+  }
+
   private static void net() {
     WindPost x = Due.of("g4 2;i0;i3;b1;");
     due.is("12: net(1, 1)", x.net(1, 1), 0);
@@ -214,6 +244,14 @@ public final class DoneTest {
     due.alike("14: the last of all was a look", lookBare[4], lookBare[3]);
     due.is("14: lets() anew", x.lets(2, 0, 3), 0);
     due.is("14: it is the new one", x.letter(0, 1), 2);
+    due.is("14: its weight", x.letter(0, 0), 3);
+    x.keep(0);
+    x.undo();
+    x.lets(1, 2, 4);
+    x.back(0);
+    due.is("14: the first one's weight again", x.letter(0, 0), 3);
+    due.is("14: where it was from", x.letter(0, 1), 2);
+    due.is("14: where it goes", x.letter(0, 2), 0);
   }
 
   private static String now(WindPost x) {

@@ -94,6 +94,8 @@ public final class SeaTest {
     stands("g6 5;i29;x28;", 3);
     stands(ISLES + HILLS, 12);
     stands("f2;b1;x3;i4;b2;i5;", 6);
+    stands("x15;", 1);
+    stands("g3 3;x8;i0;", 3);
     WindPost x = Due.of("g5 3;i14;i0;x7;x1;b3 0;f5;b2 4 1;");
     int[] counts = {5, 3, 2, 2, 5, 5, 0};
     for (int what = 0; what < 7; what++) due.is("4: count(" + what + ")", x.count(what), counts[what]);
@@ -197,6 +199,13 @@ public final class SeaTest {
     fault("f3", 2);
     fault("x3;f", 4);
     fault("f3;i1", 5);
+    String most = " ".repeat(199);
+    fault(most + "i", 200);
+    fault(most + "4", 199);
+    fault(most + ";", 199);
+    fault("i3;" + " ".repeat(195) + "i4", 200);
+    stands(most + " ", 0);
+    stands(" ".repeat(197) + "i3;", 1);
   }
 
   private static void faultChangesNothing() {
@@ -238,6 +247,10 @@ public final class SeaTest {
     due.is("4: an empty text tells the first sea", x.sea(), 0);
     due.is("4: no isles", x.count(2), 0);
     due.is("4: no winds", x.count(4), 0);
+    due.is("4: hills", Due.tell(x, "x1;x2;"), 2);
+    due.is("4: a hill", Due.tell(x, "x3;"), 1);
+    due.is("4: just that hill", x.count(3), 1);
+    due.is("4: the other ones are gone", x.cell(1), WindPost.NONE);
   }
 
   private static void isle() {

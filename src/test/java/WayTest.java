@@ -98,6 +98,7 @@ public final class WayTest {
     due.is("18: forth and back", loopOf("g4 2;i0;i2;b1 3;f2;", 1), 2);
     due.is("18: six cells, twelve winds", loopOf("g6 5;i0;i12;b1 4 4 4 4 4 4 4 4 4 4 4;f2;", 1), 72);
     due.is("18: all thirty cells", loopOf("g6 5;i0;i29;x28;b1 2;f2;", 1), loopByWhere("g6 5;i0;i29;x28;b1 2;f2;"));
+    due.is("18: held up behind 48 hours", loopOf("g6 5;i0;i29;x5;b4 4 4 4 4 4 4 4 4 4 4 1;f2;", 1), 12);
     due.is("18: held up, but not at first", loopOf("g6 2;i0;i11;x4;b1;f2;", 1), 1);
     WindPost x = Due.of("g4 3;i0;i8;b1 3;f2;");
     x.lets(0, 1, 1);
@@ -152,6 +153,11 @@ public final class WayTest {
     due.is("19: by turns", x.tangled(0, 3), 3);
     x.hour();
     due.is("19: an hour on", x.tangled(1, 2), 0);
+    WindPost two = Due.of("g6 5;i0;i7;i29;b1 2 4;f3;");
+    two.lets(0, 2, 1);
+    two.lets(1, 2, 2);
+    due.is("19: both by two winds", two.tangled(0, 1), 2);
+    due.is("19: both, the other way round", two.tangled(1, 0), 2);
     // Letters 0 and 1, to the isle on the first one's way: one arrives as the other one comes.
     WindPost y = Due.of("g6 2;i0;i3;i11;b1;f4;");
     y.lets(0, 1, 1);
@@ -179,6 +185,14 @@ public final class WayTest {
     late.lets(0, 2, 1);
     late.lets(1, 2, 5);
     due.is("19: 98 hours", late.tangled(0, 1), 98);
+    WindPost last = Due.of("g6 5;i28;i26;i5;x19;x25;b4 4 4 4 2 4 3 4 4 4 4;f5;");
+    last.lets(0, 2, 1);
+    last.lets(1, 2, 4);
+    due.is("19: 401 hours are too many", last.tangled(0, 1), WindPost.NONE);
+    last.hour();
+    due.is("19: 400 hours", last.tangled(0, 1), 400);
+    last.hour();
+    due.is("19: 399 hours", last.tangled(0, 1), 399);
     WindPost y = Due.of("g6 5;i0;i20;i17;b4 4 4 4 4 4 4 4 4 4 1 2;f2;");
     y.lets(0, 2, 1);
     y.lets(1, 0, 5);

@@ -5,6 +5,9 @@ public final class WhenTest {
   /** Isles 0, 1, 2, 3 on 0, 2, 4, 7; a hill on 8; east, east, south, calm. */
   private static final String SEA = "g5 2;i0;i2;i4;i7;x8;b1 1 2 4;f3;";
 
+  /** What is let up later than in hour 0 is blown west first, and never comes to cell 1. */
+  private static final String JUST_NOW = "g6 3;i0;i1;b1 4 4 4 4 4 4 4 4 4 4 3;f2;";
+
   public static void main(String[] args) {
     soonest();
     soonestWaits();
@@ -83,6 +86,9 @@ public final class WhenTest {
     y.net(3, 1);
     due.is("21: a net on its way", y.lightest(0, 1, 60), 5);
     due.is("21: none at all", Due.of("i0;i1;").lightest(0, 1, 60), NONE);
+    WindPost three = Due.of("g6 2;i0;i3;b1;f3;");
+    due.is("21: there is no weight 0", three.lightest(0, 1, 1), NONE);
+    due.is("21: one cell an hour, three hours", three.lightest(0, 1, 3), 2);
     WindPost z = Due.of("g6 5;i0;i5;b1 4 4 4 4 4 4 4 4 4 4 4;f2;");
     due.is("21: 49 hours", z.lightest(0, 1, 49), 1);
     due.is("21: 48 hours", z.lightest(0, 1, 48), NONE);
@@ -101,9 +107,11 @@ public final class WhenTest {
     due.is("22: words(2), a net", x.words(2), 2);
     due.is("22: words(1), its own net", x.words(1), 5);
     due.is("22: an isle alone", Due.of("i0;b1;").words(0), 0);
-    due.is("22: just by weight 5", Due.of("g2 2;i0;i1;b1;f6;").words(0), 2);
+    // By 2, 3, 4 cells it comes to no odd column or not to column 1, by 5 never off its row.
+    due.is("22: just by weight 5", Due.of("g6 5;i0;i7;b1 2;f6;").words(1), 1);
     due.is("22: by weight 4, two cells", Due.of("g4 2;i0;i2;b1 4 4 3;f6;").words(0), 2);
     due.is("22: just by k = 11", Due.of("g6 3;i0;i1;b2 4 4 4 4 4 4 4 4 4 3 1;f2;").words(1), 1);
+    due.is("22: just by k = 0", Due.of(JUST_NOW).words(1), 1);
     due.is("22: isle 5", Due.of("g6 2;i0;i1;i2;i3;i4;i5;b1;f2;").words(5), 31);
   }
 
@@ -120,6 +128,8 @@ public final class WhenTest {
     due.is("23: where it goes it doesn't count", x.nets(0, 3, 1), 2);
     x.net(0, 1);
     due.is("23: where it is from neither", x.nets(0, 3, 1), 2);
+    due.is("23: just by k = 0", Due.of(JUST_NOW).nets(0, 1, 1), NONE);
+    due.is("23: just by k = 11", Due.of("g6 3;i0;i1;b2 4 4 4 4 4 4 4 4 4 3 1;f2;").nets(0, 1, 1), NONE);
     due.is("23: no winds", Due.of("i0;i1;").nets(0, 1, 1), 0);
   }
 
@@ -154,6 +164,8 @@ public final class WhenTest {
     due.is("24: the net's own", x.who(3, 1, 12), 4);
     x.net(3, 1);
     due.is("24: where it goes", x.who(3, 1, 12), 4);
+    due.is("24: just by k = 0", Due.of(JUST_NOW).who(1, 1, 3), 1);
+    due.is("24: just by k = 11", Due.of("g6 3;i0;i1;b2 4 4 4 4 4 4 4 4 4 3 1;f2;").who(1, 1, 3), 1);
     // Two cells an hour: from 0 and from 4 by even cells alone, all round.
     WindPost y = Due.of("g6 2;i0;i2;i4;b1;f3;");
     due.is("24: all round", y.who(0, 1, 7), 2);
